@@ -334,13 +334,13 @@ public final class AutoIndenter {
             return BAD;
         }
         study();
-        return countChanges(step, base);
+        return Integer.bitCount(linesChangedWith(step, base));
     }
 
     public int fewestChanges() {
         study();
         int best = findBestSetting();
-        return countChanges(best / SETTING, best % SETTING);
+        return Integer.bitCount(linesChangedWith(best / SETTING, best % SETTING));
     }
 
     public int bestStep() {
@@ -612,17 +612,13 @@ public final class AutoIndenter {
         return changed;
     }
 
-    private int countChanges(int step, int base) {
-        return Integer.bitCount(linesChangedWith(step, base));
-    }
-
     /** SETTING times the best step plus the best base; the first one found is the smallest. */
     private int findBestSetting() {
         int best = 0;
         int fewest = MAX_LINES + 1;
         for (int step = 1; step <= MAX_STEP; step++) {
             for (int base = 0; base <= MAX_BASE; base++) {
-                int changes = countChanges(step, base);
+                int changes = Integer.bitCount(linesChangedWith(step, base));
                 if (changes < fewest) {
                     fewest = changes;
                     best = step * SETTING + base;

@@ -216,6 +216,9 @@ public final class BufferAndLinesTest {
         Check.due("joinLines(0), 32 bytes", x.joinLines(0), 32);
         Check.due("joinLines(3), 32 bytes and none", x.joinLines(3), 32);
         Check.due("lines()", x.lines(), 4);
+        x.clear();
+        x.insertLine(3);
+        Check.due("joinLines(3), none and 32 bytes", x.joinLines(3), 32);
         Check.due("joinLines(0) of none", new AutoIndenter().joinLines(0), AutoIndenter.BAD);
     }
 

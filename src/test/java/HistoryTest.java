@@ -4,6 +4,7 @@ public final class HistoryTest {
         promise48Undo();
         promise48EightStates();
         promise48EveryChange();
+        promise48RulesWithAllTheyHave();
         promise48BufferAndImagesStay();
         promise49Keep();
         promise50Back();
@@ -80,6 +81,43 @@ public final class HistoryTest {
                 Check.due("wanted(2) by the joiner", x.wanted(2), 4);
                 break;
         }
+    }
+
+    private static void promise48RulesWithAllTheyHave() {
+        AutoIndenter x = Check.withLines("ab (");
+        Check.pair(x, 0, "()", 1, 2, 1, 2);
+        Check.starter(x, 1, "ab", 3, -1);
+        Check.joiner(x, 2, "+", 4, 3);
+        long before = x.digest();
+        x.keep(0);
+        Check.pair(x, 0, "begin end", 2, 3, 0, 1);
+        Check.joiner(x, 1, "xyz", 5, 2);
+        Check.starter(x, 2, "z", 6, -3);
+        x.undo();
+        x.undo();
+        Check.due("undo()", x.undo(), 4);
+        Check.due("the text buffer", x.clear(), 1);
+        Check.put(x, "+");
+        x.removeLine(0);
+        x.undo();
+        x.keep(1);
+        AutoIndenter y = Check.withLines("ab (");
+        Check.pair(y, 0, "()", 1, 2, 1, 2);
+        Check.starter(y, 1, "ab", 3, -1);
+        Check.joiner(y, 2, "+", 4, 3);
+        Check.due("digest() without images", y.digest(), before);
+        y.keep(0);
+        y.keep(1);
+        Check.due("digest() behind undo()", x.digest(), y.digest());
+        Check.pair(x, 0, "begin end", 2, 3, 0, 1);
+        Check.joiner(x, 1, "xyz", 5, 2);
+        Check.starter(x, 2, "z", 6, -3);
+        Check.due("wanted(0)", x.wanted(0), 0);
+        x.back(0);
+        y.back(0);
+        Check.put(x, "+");
+        Check.due("blockRule(1, 0) behind back()", x.blockRule(1, 0), 0);
+        Check.due("digest() behind back()", x.digest(), y.digest());
     }
 
     private static void promise48BufferAndImagesStay() {

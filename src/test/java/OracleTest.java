@@ -38,7 +38,7 @@ public final class OracleTest {
     }
 
     public static void main(String[] args) throws ReflectiveOperationException {
-        int runs = args.length > 0 ? Integer.parseInt(args[0]) : 400;
+        int runs = args.length > 0 ? Integer.parseInt(args[0]) : 200;
         long first = args.length > 1 ? Long.parseLong(args[1]) : 1;
         Method[] methods = publicMethods();
         for (long seed = first; seed < first + runs; seed++) {

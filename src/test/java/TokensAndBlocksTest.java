@@ -16,6 +16,7 @@ public final class TokensAndBlocksTest {
         promise44Lost();
         promise45To47Vocabulary();
         promise45To47Edges();
+        everyQuestionFirst();
         Check.finish();
     }
 
@@ -236,6 +237,41 @@ public final class TokensAndBlocksTest {
         Check.due("commonestCount()", x.commonestCount(), 2);
         x.removeLine(2);
         Check.due("vocabulary()", x.vocabulary(), 5);
+    }
+
+    /** No answer may depend on another question that has been asked before. */
+    private static void everyQuestionFirst() {
+        int[] due = {2, 3, 2, 1, 4, 101, 1, 0, 3, 5, 0, 0, 97, 0};
+        for (int question = 0; question < due.length; question++) {
+            AutoIndenter x = Check.withLines(" a ( ab a", "a ) a \"\"\"", "b");
+            x.keep(0);
+            Check.pair(x, 0, "()", 1, 1, 0, 0);
+            x.removeLine(2);
+            x.removeLine(1);
+            x.depth(0);
+            x.back(0);
+            Check.pair(x, 0, "()", 1, 1, 0, 0);
+            Check.due("question " + question, ask(x, question), due[question]);
+        }
+    }
+
+    private static int ask(AutoIndenter x, int question) {
+        switch (question) {
+            case 0: return x.tokenAt(0, 1);
+            case 1: return x.tokenLength(1, 3);
+            case 2: return x.tokenKind(1, 3);
+            case 3: return x.isProtected(2);
+            case 4: return x.tokens(1);
+            case 5: return x.closedBy(0, 1);
+            case 6: return x.openedBy(1, 1);
+            case 7: return x.blockRule(1, 0);
+            case 8: return x.blockOpening(1, 0);
+            case 9: return x.contentColumn(1, 0);
+            case 10: return x.strays();
+            case 11: return x.lost();
+            case 12: return x.commonestByte(0);
+            default: return x.depth(2);
+        }
     }
 
     private static void promise45To47Edges() {

@@ -285,6 +285,22 @@ public final class WantedTest {
         Check.due("fewestChanges(), all lines", x.fewestChanges(), 2);
         Check.due("the smallest step", x.bestStep(), 1);
         Check.due("the smallest base", x.bestBase(), 0);
+        x = new AutoIndenter();
+        Check.put(x, " ".repeat(25) + "a");
+        while (x.lines() < 20) {
+            x.insertLine(0);
+        }
+        Check.due("bestBase(), asked first", x.bestBase(), 0);
+        Check.due("fewestChanges(), all of 20 lines", x.fewestChanges(), 20);
+        Check.due("bestStep(), all of 20 lines", x.bestStep(), 1);
+        x.shift(0, 20, -8);
+        Check.due("bestBase(), asked first behind a change", x.bestBase(), 17);
+        Check.starter(x, 0, "a", 1, -2);
+        Check.due("bestStep(), asked first behind a change", x.bestStep(), 1);
+        x.setBase(1);
+        x.shift(0, 20, -13);
+        x.shift(0, 10, 36);
+        Check.due("bestBase(), asked first behind a change", x.bestBase(), 6);
         x = Check.withLines("{", "   }", "     a", "     b");
         Check.pair(x, 0, "{}", 1, 1, 0, 1);
         Check.due("fewestChanges()", x.fewestChanges(), 2);
