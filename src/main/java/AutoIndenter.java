@@ -774,7 +774,8 @@ public final class AutoIndenter {
         }
 
         private void appendFrom(int source, int from, int i) {
-            for (int k = from; k < sizes.get(source); k++) {
+            int end = sizes.get(source);
+            for (int k = from; k < end; k++) {
                 append(i, byteOf(source, k));
             }
         }
@@ -804,8 +805,9 @@ public final class AutoIndenter {
         private void copyLine(int from, int to) {
             indents.set(to, indents.get(from));
             pins.set(to, pins.get(from));
-            sizes.set(to, sizes.get(from));
-            for (int k = 0; k < sizes.get(from); k++) {
+            int size = sizes.get(from);
+            sizes.set(to, size);
+            for (int k = 0; k < size; k++) {
                 bytes.set(to * MAX_CONTENT + k, bytes.get(from * MAX_CONTENT + k));
             }
         }
