@@ -198,6 +198,9 @@ public final class SettingsAndRulesTest {
         Check.due("a joiner in its place", Check.joiner(x, 0, "x", 0, 1), 1);
         Check.due("a pair in its place", Check.pair(x, 0, "x )", 0, 1, 0, 0), 1);
         Check.due("dropRule(0)", x.dropRule(0), 0);
+        Check.pair(x, 1, "( )", 0, 1, 0, 0);
+        Check.starter(x, 0, "  x", 0, 1);
+        Check.due("strays() of a starter where the closing text stood", x.strays(), 1);
     }
 
     private static void refusedCallsAreNoChanges() {

@@ -4,6 +4,7 @@ public final class TokensAndBlocksTest {
         promise33To36Tokens();
         promise33To36Literals();
         promise33To36Strings();
+        promise33To36LongestLines();
         promise33To36Comments();
         promise33To36WrongArguments();
         promise37And38Matches();
@@ -63,6 +64,23 @@ public final class TokensAndBlocksTest {
         tokensAre(x, 8, "0+2:2 3+2:2");
         tokensAre(x, 9, "0+3:2 3+2:2 5+1:0");
         tokensAre(x, 10, "0+3:2");
+    }
+
+    /** Where a line has no room for another byte, its end is still seen. */
+    private static void promise33To36LongestLines() {
+        String word = "a".repeat(29);
+        AutoIndenter x = Check.withLines(word + "aaa", word + " a\"", word + " \"\"", word + "\"a\\", word + "\"\\\"",
+                word + "+ +", word + "\"\"\"", word + "a\"\"", word + "\"\"\"", "b");
+        tokensAre(x, 0, "0+32:0");
+        tokensAre(x, 1, "0+29:0 30+1:0 31+1:2");
+        tokensAre(x, 2, "0+29:0 30+2:2");
+        tokensAre(x, 3, "0+29:0 29+3:2");
+        tokensAre(x, 4, "0+29:0 29+3:2");
+        tokensAre(x, 5, "0+29:0 29+1:1 31+1:1");
+        tokensAre(x, 6, "0+29:0 29+3:2");
+        tokensAre(x, 7, "");
+        tokensAre(x, 8, "");
+        tokensAre(x, 9, "0+1:0");
     }
 
     private static void promise33To36Comments() {
