@@ -1,7 +1,16 @@
+import java.util.function.Supplier;
+
 /** What the tests of the project share: counting wrong answers, and typing whole texts. */
 final class Check {
+    /** A call whose answer is looked at. */
+    interface Call {
+        long on(AutoIndenter x);
+    }
+
     private static int wrong = 0;
     private static int checked = 0;
+    /** What is printed before a wrong answer: the sentence of the document that asks for another one. */
+    private static String under = "";
 
     private Check() {
     }
@@ -10,7 +19,7 @@ final class Check {
         checked++;
         if (got != want) {
             wrong++;
-            System.out.println(call + " answered " + got + ", due is " + want);
+            System.out.println(under + call + " answered " + got + ", due is " + want);
         }
     }
 
@@ -18,8 +27,46 @@ final class Check {
         checked++;
         if (!got.equals(want)) {
             wrong++;
-            System.out.println(what + " is <" + got + ">, due is <" + want + ">");
+            System.out.println(under + what + " is <" + got + ">, due is <" + want + ">");
         }
+    }
+
+    /** The checks from here on hold these words of a promise, or of the section "Terms" if it is 0. */
+    static void says(int promise, String... words) {
+        under = (promise == 0 ? "Terms" : "Promise " + promise) + ", '" + words[0] + "': ";
+        for (String w : words) {
+            due("'" + w + "' stands in the document", Doc.has(promise, w) ? 1 : 0, 1);
+        }
+    }
+
+    /** The call answers with this code, and then all is as in a twin that has not seen the call. */
+    static void refused(String call, Supplier<AutoIndenter> maker, Call run, long code) {
+        AutoIndenter x = maker.get();
+        due(call, run.on(x), code);
+        due("everything behind " + call, everything(x), everything(maker.get()));
+    }
+
+    /** The call changes nothing, whatever it answers. */
+    static void silent(String call, Supplier<AutoIndenter> maker, Call run) {
+        AutoIndenter x = maker.get();
+        run.on(x);
+        due("everything behind " + call, everything(x), everything(maker.get()));
+    }
+
+    /** All that can be seen of an object, remembered states, images and text buffer included; uses it up. */
+    private static String everything(AutoIndenter x) {
+        StringBuilder all = new StringBuilder().append(x.digest());
+        for (int left = x.undo(); left != AutoIndenter.STATE; left = x.undo()) {
+            all.append(" undo ").append(left).append(' ').append(x.digest());
+        }
+        for (int k = 0; k < 2; k++) {
+            all.append(" back ").append(x.back(k)).append(' ').append(x.digest());
+        }
+        if (x.lines() == 20) {
+            x.removeLine(0);
+        }
+        all.append(" buffer ").append(x.insertLine(0)).append(line(x, 0)).append(x.pair(0, 0, 0, 0, 0));
+        return all.append(' ').append(x.digest()).append(' ').append(x.clear()).toString();
     }
 
     static void finish() {
@@ -35,6 +82,48 @@ final class Check {
         for (int k = 0; k < text.length(); k++) {
             x.type(text.charAt(k));
         }
+    }
+
+    static AutoIndenter buffered(AutoIndenter x, String text) {
+        put(x, text);
+        return x;
+    }
+
+    /** Some of everything: lines of all sorts, a pin, rules, settings, states, an image and a text. */
+    static AutoIndenter some() {
+        AutoIndenter x = withLines(" a (", "", "b +", "  c \"\"\"", "   d");
+        pair(x, 0, "()", 5, 1, 0, 0);
+        starter(x, 3, "b", 2, 1);
+        joiner(x, 11, "+", 3, -1);
+        x.pin(2);
+        x.keep(1);
+        x.setBase(2);
+        return buffered(x, " q r ");
+    }
+
+    /** All that has a limit is full: lines, rules, states, images and the text buffer. */
+    static AutoIndenter full() {
+        AutoIndenter x = new AutoIndenter();
+        for (int r = 0; r < 12; r++) {
+            starter(x, r, String.valueOf((char) ('a' + r)), r % 10, 1);
+        }
+        put(x, " b ( c");
+        while (x.lines() < 18) {
+            x.insertLine(0);
+        }
+        x.keep(0);
+        x.keep(1);
+        addLines(x, " ".repeat(40) + "d", "e");
+        return buffered(x, " ".repeat(40) + "f".repeat(32));
+    }
+
+    /** As many lines with the same text as asked for. */
+    static AutoIndenter copies(int count, String text) {
+        AutoIndenter x = buffered(new AutoIndenter(), text);
+        for (int n = 0; n < count; n++) {
+            x.insertLine(n);
+        }
+        return x;
     }
 
     static AutoIndenter withLines(String... texts) {
