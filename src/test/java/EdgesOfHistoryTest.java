@@ -10,6 +10,7 @@ public final class EdgesOfHistoryTest {
 
     public static void main(String[] args) {
         undo();
+        undoOfRules();
         undoBehindUndo();
         undoWithNone();
         keep();
@@ -65,6 +66,48 @@ public final class EdgesOfHistoryTest {
             h = 31 * h + x.isPinned(i);
         }
         return h;
+    }
+
+    /** A rule comes back with all that it has, and what was asked in between does not matter. */
+    private static void undoOfRules() {
+        Check.says(48, "Returns to the latest remembered state");
+        for (int from = 0; from < 3; from++) {
+            for (int to = 0; to < 4; to++) {
+                AutoIndenter x = Check.withLines(" ab ( ab", "c", "abc )", ") ab");
+                AutoIndenter twin = Check.withLines(" ab ( ab", "c", "abc )", ") ab");
+                make(x, from, "ab", ")", 3);
+                make(twin, from, "ab", ")", 3);
+                String before = answers(x);
+                x.keep(0);
+                make(x, to, "(", "abc", 5);
+                answers(x);
+                Check.due("undo()", x.undo(), 5);
+                Check.due("behind undo(), from " + from + " to " + to, answers(x), before);
+                make(x, to, "(", "abc", 5);
+                answers(x);
+                Check.due("back(0)", x.back(0), 4);
+                Check.due("behind back(), from " + from + " to " + to, answers(x), before);
+                Check.put(x, "a");
+                Check.put(twin, "a");
+                twin.keep(0);
+                twin.back(0);
+                Check.due("digest()", x.digest(), twin.digest());
+            }
+        }
+    }
+
+    private static void make(AutoIndenter x, int sort, String first, String second, int precedence) {
+        switch (sort) {
+            case 0: Check.pair(x, 7, first + " " + second, precedence, 2, precedence == 3 ? 1 : 0, precedence - 3); break;
+            case 1: Check.starter(x, 7, first, precedence, precedence - 7); break;
+            case 2: Check.joiner(x, 7, first, precedence, precedence - 1); break;
+            default: x.dropRule(7); break;
+        }
+    }
+
+    private static String answers(AutoIndenter x) {
+        return Check.wantedOfAll(x) + " " + x.strays() + " " + x.depth(1) + " " + x.depth(3) + " " + x.reason(1) + " "
+                + x.decidingRule(2) + " " + x.closedBy(0, 0) + " " + x.wouldChange();
     }
 
     private static void undoBehindUndo() {

@@ -12,6 +12,7 @@ public final class EdgesOfLinesTest {
         type();
         clear();
         insertLine();
+        longLinesMove();
         insertLineFull();
         replaceLine();
         removeLine();
@@ -126,6 +127,32 @@ public final class EdgesOfLinesTest {
             Supplier<AutoIndenter> maker = () -> Check.copies(count, "a");
             Check.refused("insertLine(-1) of " + count, maker, y -> y.insertLine(-1), BAD);
             Check.refused("insertLine behind " + count, maker, y -> y.insertLine(count + 1), BAD);
+        }
+    }
+
+    private static String longLine(int n) {
+        return String.valueOf((char) ('a' + n)) + BYTES32.substring(1, 31) + (char) ('A' + n);
+    }
+
+    /** Lines that fill their room do not touch one another when they get other indices. */
+    private static void longLinesMove() {
+        Check.says(4, "The lines from i on get greater indices.");
+        for (int i : new int[] {0, 1, 10, 18, 19}) {
+            AutoIndenter x = new AutoIndenter();
+            for (int n = 0; n < 19; n++) {
+                Check.put(x, longLine(n));
+                x.insertLine(n);
+            }
+            Check.put(x, longLine(19));
+            Check.due("insertLine(" + i + ")", x.insertLine(i), 20);
+            for (int n = 0; n < 20; n++) {
+                String due = longLine(n < i ? n : n == i ? 19 : n - 1);
+                Check.due("line " + n, Check.content(x, n), due);
+            }
+            Check.due("removeLine(" + i + ")", x.removeLine(i), 19);
+            for (int n = 0; n < 19; n++) {
+                Check.due("line " + n, Check.content(x, n), longLine(n));
+            }
         }
     }
 

@@ -21,6 +21,7 @@ public final class EdgesOfRulesTest {
         single(23, "joiner", AutoIndenter::joiner);
         starterAndJoiner();
         inPlaceOfOthers();
+        besideAPair();
         dropRule();
         Check.finish();
     }
@@ -274,6 +275,18 @@ public final class EdgesOfRulesTest {
         }
     }
 
+    /** The places of the texts of a pair do not count when a rule with one text is made next. */
+    private static void besideAPair() {
+        Check.says(22, "in place of the rule that it was");
+        AutoIndenter x = Check.withLines("b");
+        Check.pair(x, 0, "( )", 0, 0, 0, 0);
+        Check.starter(x, 1, "  b", 0, 0);
+        Check.due("a starter has no closing text", x.strays(), 0);
+        Check.pair(x, 0, "( )", 0, 0, 0, 0);
+        Check.joiner(x, 1, "  b", 0, 0);
+        Check.due("a joiner has no closing text", x.strays(), 0);
+    }
+
     private static void make(AutoIndenter x, int sort, String first, String second) {
         switch (sort) {
             case 0: Check.pair(x, 0, first + " " + second, 1, 2, 1, 2); break;
@@ -290,6 +303,19 @@ public final class EdgesOfRulesTest {
         for (int r = 1; r <= 10; r++) {
             Check.due("dropRule(" + r + ")", x.dropRule(r), 10 - r);
         }
+        AutoIndenter closers = Check.withLines("( a )", ") +", "a");
+        Check.pair(closers, 0, "()", 0, 1, 0, 0);
+        Check.starter(closers, 1, "a", 0, 1);
+        Check.joiner(closers, 2, "+", 1, 2);
+        Check.due("the wanted indentations", Check.wantedOfAll(closers), "0 0 8");
+        Check.due("strays()", closers.strays(), 1);
+        closers.dropRule(2);
+        Check.due("without the joiner", Check.wantedOfAll(closers), "0 0 4");
+        closers.dropRule(1);
+        Check.due("without the starter", Check.wantedOfAll(closers), "0 0 0");
+        closers.dropRule(0);
+        Check.due("nothing is stray without the pair", closers.strays(), 0);
+        Check.due("nothing is opened without the pair", closers.closedBy(0, 0), AutoIndenter.NONE);
         Check.says(24, "BAD if r is out of range, or there is no such rule.");
         Check.refused("dropRule(-1)", Check::full, y -> y.dropRule(-1), BAD);
         Check.refused("dropRule(12)", Check::full, y -> y.dropRule(12), BAD);

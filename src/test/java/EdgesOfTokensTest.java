@@ -313,8 +313,13 @@ public final class EdgesOfTokensTest {
         Check.due("held by a block above", x.strays(), 1);
         x = Check.withLines("; ;");
         Check.pair(x, 0, "{ ;", 0, 0, 0, 0);
+        Check.due("the closing text of one pair", x.strays(), 2);
         Check.pair(x, 1, "( ;", 0, 0, 0, 0);
         Check.due("the closing text of two pairs", x.strays(), 2);
+        x.removeLine(0);
+        Check.due("none any more", x.strays(), 0);
+        x.undo();
+        Check.due("undone", x.strays(), 2);
     }
 
     private static void lost() {
@@ -332,6 +337,10 @@ public final class EdgesOfTokensTest {
         Check.pair(x, 0, "{}", 1, 0, 0, 0);
         Check.pair(x, 1, "()", 0, 0, 0, 0);
         Check.due("neither closed nor open ones nor those below", x.lost(), 2);
+        x.removeLine(1);
+        Check.due("one less", x.lost(), 1);
+        x.undo();
+        Check.due("undone", x.lost(), 2);
         x = Check.copies(20, "{ ( }{ ( }{ ( }");
         Check.pair(x, 0, "{}", 1, 0, 0, 0);
         Check.pair(x, 1, "()", 0, 0, 0, 0);
@@ -348,6 +357,8 @@ public final class EdgesOfTokensTest {
         Check.due("upper and lower case", Check.withLines("a A").vocabulary(), 2);
         Check.due("a beginning of the other", Check.withLines("a aa aaa").vocabulary(), 3);
         Check.due("the last byte", Check.withLines("a".repeat(31) + "b", "a".repeat(31) + "c").vocabulary(), 2);
+        Check.due("the same of 32 bytes", Check.withLines("a".repeat(31) + "b", "a".repeat(31) + "b").vocabulary(), 1);
+        Check.due("the same at other places", Check.withLines("abc", "  x abc", "+abc").vocabulary(), 3);
         Check.due("a word and the same in quotation marks", Check.withLines("a \"a\"").vocabulary(), 1);
         String signs = "!$%&'()*+,-./:;<=>?@[\\]^`{|}~";
         AutoIndenter x = Check.withLines(signs);

@@ -92,6 +92,11 @@ public final class EdgesOfWantedTest {
         x.insertLine(2);
         Check.due("a leading closer", x.reason(1), 3);
         Check.due("a closer that closes nothing", x.reason(2), 0);
+        x.removeLine(0);
+        Check.due("a closer whose block is removed", x.reason(0), 0);
+        Check.due("decidingRule(0)", x.decidingRule(0), NONE);
+        x.undo();
+        Check.due("a closer whose block is there again", x.reason(1), 3);
         x = Check.withLines("(b", ")");
         Check.pair(x, 0, "()", 0, 0, 1, 1);
         Check.due("the content column of a closed block", x.reason(1), 3);

@@ -16,7 +16,10 @@ public final class OracleTest {
         "case x", "x +", "y", "# c", "x # (", "\"a # (\" )", "\"\"\"", "\"\"\" (", "a \"\"\" b \"\"\" (",
         "\"\"\"\"", "\"a\\\"b\" (", "\"a\\", "|", "| |", "[x,", "] )", "", "   ", "; # c", "_a9 A", "+ (",
         "((((((((((((((((", "))))", "end ; begin", "case (", ") case", "x \\ y", "abcdefgh abcdefghi",
-        "\"\"", "\"\" \"\"\" x", "a    b", "if ( x", "\"s\" )", "\"\"\" )", "\"\"\"\"\"\" (", "} )", ") }"
+        "\"\"", "\"\" \"\"\" x", "a    b", "if ( x", "\"s\" )", "\"\"\" )", "\"\"\"\"\"\" (", "} )", ") }",
+        "abcdefghijklmnopqrstuvwxyz(){}[]", "++++++++++++++++++++++++++++++ (", "aaaaaaaaaaaaaaaaaaaaaaaaaaaa (b",
+        "aaaaaaaaaaaaaaaaaaaaaaaaaaaaa\"\"\"", "aaaaaaaaaaaaaaaaaaaaaaaaaaaaaa\"\\", "(((((((((((", "))))))))))))",
+        "begin ( { [", "aaaaaaaaaaaaaaaaaaaaaaaaaaaaaaaab"
     };
     private static final String[] PAIRS = {
         "( )", "()", "{ }", "{}", "[ ]", "begin end", "| |", "( }", "begin )", "if end", "( (", "x y", "begin ;"

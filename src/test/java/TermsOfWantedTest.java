@@ -157,6 +157,9 @@ public final class TermsOfWantedTest {
         AutoIndenter x = braces(" {", "a", "b a", "\"a\"", "# a", "aa", "a } a");
         Check.starter(x, 3, "a", 0, 2);
         wantedAre("the first token alone", x, "0 13 5 5 5 5 13");
+        x = Check.withLines("#", "a", "# a", "a");
+        Check.starter(x, 0, "a", 0, 1);
+        wantedAre("a line without tokens before a starter", x, "0 4 0 4");
     }
 
     private static void candidateOfJoiner() {
