@@ -10,14 +10,19 @@ import java.util.regex.Matcher;
 import java.util.regex.Pattern;
 
 /**
- * The sentences of ../shared/DOC.md by promise, 0 for its section "Terms". What stands behind "Returns" is
- * divided at its semicolons, because each part there tells a case of its own.
+ * The sentences of ../shared/DOC.md by promise, 0 for its sections "What it is" and "Terms". What stands behind
+ * "Returns" is divided at its semicolons, because each part there tells a case of its own, and what is said of a
+ * parameter is a sentence too.
  */
 final class Doc {
-    private static final Path PLACE = Path.of("../shared/DOC.md");
-    private static final Map<Integer, List<String>> SENTENCES = read();
+    private static final String TEXT = read();
+    private static final Map<Integer, List<String>> SENTENCES = divide();
 
     private Doc() {
+    }
+
+    static String text() {
+        return TEXT;
     }
 
     static Map<Integer, List<String>> sentences() {
@@ -29,27 +34,36 @@ final class Doc {
         return SENTENCES.getOrDefault(promise, List.of()).stream().anyMatch(s -> s.contains(words));
     }
 
-    private static Map<Integer, List<String>> read() {
-        String text;
+    private static String read() {
         try {
-            text = Files.readString(PLACE);
+            return Files.readString(Path.of("../shared/DOC.md"));
         } catch (IOException e) {
             throw new UncheckedIOException(e);
         }
+    }
+
+    private static Map<Integer, List<String>> divide() {
         Map<Integer, List<String>> all = new LinkedHashMap<>();
-        int terms = text.indexOf("RETURN VALUES.");
-        all.put(0, sentencesOf(text.substring(terms, text.indexOf("\nExamples:"))));
-        Matcher promise = Pattern.compile("## Promise (\\d+):.*\n([\\s\\S]*?)(?=\n## )").matcher(text);
+        List<String> whole = sentencesOf(between("\n## What it is\n", "\n## The public face\n"));
+        whole.addAll(sentencesOf(between("\n## Terms\n", "\nExamples:")));
+        all.put(0, whole);
+        Matcher promise = Pattern.compile("## Promise (\\d+):.*\n([\\s\\S]*?)(?=\n## )").matcher(TEXT);
         while (promise.find()) {
             all.put(Integer.parseInt(promise.group(1)), sentencesOf(promise.group(2)));
         }
         return all;
     }
 
+    private static String between(String begin, String end) {
+        int from = TEXT.indexOf(begin) + begin.length();
+        return TEXT.substring(from, TEXT.indexOf(end, from));
+    }
+
     private static List<String> sentencesOf(String section) {
         List<String> found = new ArrayList<>();
         for (String line : section.split("\n")) {
-            if (line.matches("- `.*")) {
+            if (line.startsWith("- `")) {
+                found.add(line.substring(2));
                 continue;
             }
             String plain = line.replaceFirst("^(- |\\d+\\. )", "").replaceFirst("^[A-Z ]+\\. ", "")

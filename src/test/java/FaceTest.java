@@ -14,13 +14,6 @@ import java.util.regex.Pattern;
 
 /** The public face, what of ../shared/LANGUAGE.md a test can see, and that no call makes objects. */
 public final class FaceTest {
-    private static final String FACE = "type:1 clear:0 insertLine:1 replaceLine:1 removeLine:1 splitLine:2 "
-            + "joinLines:1 shift:3 pin:1 reindent:2 lines:0 indentation:1 length:1 byteAt:2 isProtected:1 isPinned:1 "
-            + "setStep:1 setBase:1 setComment:1 pair:5 starter:3 joiner:3 dropRule:1 wanted:1 reason:1 decidingRule:1 "
-            + "wouldChange:0 changesWith:2 fewestChanges:0 bestStep:0 bestBase:0 tokens:1 tokenAt:2 tokenLength:2 "
-            + "tokenKind:2 openedBy:2 closedBy:2 depth:1 blockRule:2 blockOpening:2 contentColumn:2 strays:0 lost:0 "
-            + "vocabulary:0 commonestCount:0 commonestByte:1 undo:0 keep:1 back:1 draw:2 digest:0";
-
     public static void main(String[] args) throws Exception {
         methods();
         constantsAndConstructor();
@@ -30,9 +23,21 @@ public final class FaceTest {
         Check.finish();
     }
 
+    /** The methods that the document's face has, each as "int shift(int, int, int)". */
+    private static Set<String> face() {
+        String text = Doc.text();
+        Matcher method = Pattern.compile("    public (int|long) (\\w+)\\((.*)\\);").matcher(
+                text.substring(text.indexOf("## The public face"), text.indexOf("## Terms")));
+        Set<String> found = new TreeSet<>();
+        while (method.find()) {
+            found.add(method.group(1) + " " + method.group(2) + "(" + method.group(3).replaceAll(" \\w+(?=,|$)", "") + ")");
+        }
+        return found;
+    }
+
     private static Set<String> faceNames() {
         Set<String> names = new TreeSet<>();
-        for (String entry : FACE.split(" ")) names.add(entry.substring(0, entry.indexOf(':')));
+        for (String entry : face()) names.add(entry.substring(entry.indexOf(' ') + 1, entry.indexOf('(')));
         return names;
     }
 
@@ -40,16 +45,16 @@ public final class FaceTest {
         Set<String> found = new TreeSet<>();
         for (Method m : AutoIndenter.class.getDeclaredMethods()) {
             if (Modifier.isPublic(m.getModifiers())) {
-                found.add(m.getName() + ":" + m.getParameterCount());
-                Class<?> type = m.getName().equals("digest") ? long.class : int.class;
-                Check.due("the type of " + m.getName(), m.getReturnType().getName(), type.getName());
+                String types = Arrays.toString(m.getParameterTypes()).replaceAll("[\\[\\]]", "");
+                found.add(m.getReturnType() + " " + m.getName() + "(" + types + ")");
                 Check.due(m.getName() + " is static", Modifier.isStatic(m.getModifiers()) ? 1 : 0, 0);
             } else {
                 Check.due(m.getName() + " is private", Modifier.isPrivate(m.getModifiers()) ? 1 : 0, 1);
                 Check.due(m.getName() + " bears a public name", faceNames().contains(m.getName()) ? 1 : 0, 0);
             }
         }
-        Check.due("the public methods", found.toString(), new TreeSet<>(Arrays.asList(FACE.split(" "))).toString());
+        Check.due("the public methods", String.join("\n", found), String.join("\n", face()));
+        Check.due("how many they are", found.size(), 51);
     }
 
     private static void constantsAndConstructor() throws Exception {
